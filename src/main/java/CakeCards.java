@@ -447,8 +447,7 @@ public final class CakeCards {
         if (!now.deck.has(card) || what < 0 || what > 1) {
             return BAD;
         }
-        asker.turnTo(now, card);
-        return what == 0 ? asker.askSize() : asker.askMark();
+        return asker.answer(now, card, what);
     }
 
     public int trace(int i) {
@@ -1363,8 +1362,8 @@ public final class CakeCards {
 
         /** What two or three of them have; NONE: no two agree on what is known. */
         private static int agreed(int a, int b, int c) {
-            if (a == b || a == c) {
-                return a == NONE && b == c ? NONE : a != NONE ? a : NONE;
+            if (a != NONE && (a == b || a == c)) {
+                return a;
             }
             return b == c ? b : NONE;
         }
@@ -1511,31 +1510,107 @@ public final class CakeCards {
         }
     }
 
-    /** All TREES of a few CARDS. What a MARK may be at a node is a set of bits, one for each known value. */
-    private static final class Forest {
+    /** The CARDS at the ends of TREES. What each has for a MARK is a set of bits, one for each known value. */
+    private static final class Grove {
+        private int ends;
         private final int[] cards = new int[ENDS];
         private final int[] values = new int[MARKS * ENDS];
+        private final int[] known = new int[MARKS];
         private final int[] codes = new int[MARKS * ENDS];
-        private final int[] codesNow = new int[MARKS * ENDS];
-        private int ends;
-        private int endsNow;
 
+        int ends() {
+            return ends;
+        }
+
+        void gather(Deck deck, int set) {
+            ends = 0;
+            for (int card = 0; card < deck.size() && ends < ENDS; card++) {
+                if ((set >> card & 1) != 0) {
+                    cards[ends] = card;
+                    ends++;
+                }
+            }
+            for (int mark = 0; mark < MARKS; mark++) {
+                known[mark] = 0;
+                for (int end = 0; end < ends; end++) {
+                    meet(mark, deck.markAt(cards[end], mark));
+                }
+                for (int end = 0; end < ends; end++) {
+                    codes[mark * ENDS + end] = encode(mark, deck.markAt(cards[end], mark));
+                }
+            }
+        }
+
+        /** Puts a value among the known ones of a MARK, which stand rising, each once. */
+        private void meet(int mark, int value) {
+            int base = mark * ENDS;
+            int place = known[mark];
+            while (place > 0 && values[base + place - 1] > value) {
+                place--;
+            }
+            boolean isThere = place > 0 && values[base + place - 1] == value;
+            if (value == NONE || isThere || known[mark] >= ENDS) {
+                return;
+            }
+            for (int i = known[mark]; i > place; i--) {
+                values[base + i] = values[base + i - 1];
+            }
+            values[base + place] = value;
+            known[mark]++;
+        }
+
+        /** A STAINED MARK is free: it may be any of the known values. */
+        private int encode(int mark, int value) {
+            int code = 0;
+            for (int i = 0; i < known[mark] && i < ENDS; i++) {
+                if (value == NONE || value == values[mark * ENDS + i]) {
+                    code |= 1 << i;
+                }
+            }
+            return code;
+        }
+
+        int codeAt(int mark, int end) {
+            return isMark(mark) && end >= 0 && end < ends ? codes[mark * ENDS + end] : 0;
+        }
+
+        int valueAt(int mark, int i) {
+            return isMark(mark) && i >= 0 && i < known[mark] && i < ENDS ? values[mark * ENDS + i] : NONE;
+        }
+
+        int cardsOf(int join) {
+            int set = 0;
+            for (int end = 0; end < ends; end++) {
+                if ((join >> end & 1) != 0) {
+                    set |= 1 << cards[end];
+                }
+            }
+            return set;
+        }
+    }
+
+    /** All TREES of a Grove. */
+    private static final class Forest {
+        private final Grove grove = new Grove();
+        private int ends;
         /** End k is node 2k - 1 (end 0 is node 0); the fork that came with it is node 2k. */
+        private final int[] codes = new int[MARKS * NODES];
         private final int[] parent = new int[NODES];
-        private final int[] left = new int[NODES];
-        private final int[] right = new int[NODES];
+        private final int[] one = new int[NODES];
+        private final int[] other = new int[NODES];
         private final int[] clade = new int[NODES];
-        private final int[] node = new int[MARKS * NODES];
-        /** The forks of a TREE, each behind those above it. */
+        /** The forks of a TREE, each behind those on its own branches: the last is the top one. */
         private final int[] order = new int[ENDS];
         private int forks;
+        private final int[] varying = new int[MARKS];
+        private int varyings;
 
-        private final int[] may = new int[MARKS];
-        private long sure;
         private int changes;
         private int least;
         private int ways;
         private int all;
+        private long sureJoins;
+        private final int[] may = new int[MARKS];
 
         int leastChanges() {
             return least;
@@ -1549,24 +1624,19 @@ public final class CakeCards {
             return all;
         }
 
-        /** The answers hang on nothing but the codes, so those of the same codes hold still. */
         void grow(Deck deck, int set) {
-            gather(deck, set);
-            for (int mark = 0; mark < MARKS; mark++) {
-                encode(deck, mark);
-            }
-            if (endsNow == ends && sameCodes()) {
+            grove.gather(deck, set);
+            // The answers hang on nothing but ends and codes: while these hold still, so do they.
+            if (!plantEnds()) {
                 return;
             }
-            ends = endsNow;
-            System.arraycopy(codesNow, 0, codes, 0, MARKS * ENDS);
-            plantEnds();
             all = 1;
             for (int k = 2; k < ends; k++) {
                 all = all * (2 * k - 1);
             }
             least = MARKS * ENDS;
             ways = 0;
+            sortMarks();
             for (int tree = 0; tree < all; tree++) {
                 build(tree);
                 countChanges();
@@ -1574,106 +1644,72 @@ public final class CakeCards {
             }
         }
 
-        private void gather(Deck deck, int set) {
-            endsNow = 0;
-            for (int card = 0; card < deck.size() && endsNow < ENDS; card++) {
-                if ((set >> card & 1) != 0) {
-                    cards[endsNow] = card;
-                    endsNow++;
+        /** Whether the ends are other ones than before. */
+        private boolean plantEnds() {
+            boolean isNew = ends != grove.ends();
+            ends = grove.ends();
+            for (int end = 0; end < ends && end < ENDS; end++) {
+                int leaf = leafOf(end);
+                clade[leaf] = 1 << end;
+                for (int mark = 0; mark < MARKS; mark++) {
+                    int code = grove.codeAt(mark, end);
+                    isNew = isNew || codes[mark * NODES + leaf] != code;
+                    codes[mark * NODES + leaf] = code;
                 }
             }
+            return isNew;
         }
 
-        private boolean sameCodes() {
-            for (int i = 0; i < MARKS * ENDS; i++) {
-                if (codes[i] != codesNow[i]) {
-                    return false;
-                }
-            }
-            return true;
-        }
-
-        private void encode(Deck deck, int mark) {
-            int known = sortValues(deck, mark);
-            for (int end = 0; end < ENDS; end++) {
-                int code = 0;
-                int value = end < endsNow ? deck.markAt(cards[end], mark) : 0;
-                for (int i = 0; i < known && end < endsNow; i++) {
-                    if (value == NONE || value == values[mark * ENDS + i]) {
-                        code |= 1 << i;
-                    }
-                }
-                codesNow[mark * ENDS + end] = code;
-            }
-        }
-
-        /** Puts the known values of a MARK in their order, each once; how many there are. */
-        private int sortValues(Deck deck, int mark) {
-            int known = 0;
-            int base = mark * ENDS;
-            for (int end = 0; end < endsNow && end < ENDS; end++) {
-                int value = deck.markAt(cards[end], mark);
-                int i = known;
-                while (i > 0 && values[base + i - 1] > value) {
-                    i--;
-                }
-                boolean isNew = i == 0 || values[base + i - 1] != value;
-                if (value != NONE && isNew) {
-                    for (int j = known; j > i; j--) {
-                        values[base + j] = values[base + j - 1];
-                    }
-                    values[base + i] = value;
-                    known++;
-                }
-            }
-            return known;
-        }
-
-        private static int nodeOfEnd(int end) {
+        private static int leafOf(int end) {
             return end == 0 ? 0 : 2 * end - 1;
         }
 
-        private void plantEnds() {
-            for (int end = 0; end < ends; end++) {
-                clade[nodeOfEnd(end)] = 1 << end;
-                for (int mark = 0; mark < MARKS; mark++) {
-                    node[mark * NODES + nodeOfEnd(end)] = codes[mark * ENDS + end];
+        /** A MARK that can be one and the same at all ends never changes, whatever the TREE. */
+        private void sortMarks() {
+            varyings = 0;
+            for (int mark = 0; mark < MARKS; mark++) {
+                int common = -1;
+                int any = 0;
+                for (int end = 0; end < ends; end++) {
+                    common &= grove.codeAt(mark, end);
+                    any |= grove.codeAt(mark, end);
+                }
+                may[mark] = common;
+                if (common == 0 && any != 0) {
+                    varying[varyings] = mark;
+                    varyings++;
                 }
             }
         }
 
-        /** Each number below that of all TREES tells for each end the branch on which it is grafted. */
+        /** The number of a TREE tells of each end on which branch of those before it is grafted. */
         private void build(int tree) {
             int rest = tree;
             parent[0] = NONE;
             forks = 0;
-            for (int k = 1; k < ends; k++) {
-                int branches = 2 * k - 1;
-                graft(k, rest % branches);
+            for (int end = 1; end < ends && end < ENDS; end++) {
+                int branches = 2 * end - 1;
+                graft(end, rest % branches);
                 rest = rest / branches;
-            }
-            for (int i = 0; i < forks; i++) {
-                int fork = order[i];
-                clade[fork] = clade[left[fork]] | clade[right[fork]];
             }
         }
 
-        private void graft(int end, int below) {
-            int leaf = 2 * end - 1;
+        private void graft(int end, int node) {
             int fork = 2 * end;
-            int under = parent[below];
-            left[fork] = below;
-            right[fork] = leaf;
-            parent[fork] = under;
-            parent[below] = fork;
-            parent[leaf] = fork;
-            if (under != NONE && left[under] == below) {
-                left[under] = fork;
-            } else if (under != NONE) {
-                right[under] = fork;
+            int above = parent[node];
+            one[fork] = node;
+            other[fork] = leafOf(end);
+            parent[fork] = above;
+            parent[node] = fork;
+            parent[leafOf(end)] = fork;
+            if (above != NONE && one[above] == node) {
+                one[above] = fork;
+            } else if (above != NONE) {
+                other[above] = fork;
             }
+            // Right behind the node, if that is a fork, or else ahead of all.
             int place = forks;
-            while (place > 0 && order[place - 1] != below) {
+            while (place > 0 && order[place - 1] != node) {
                 order[place] = order[place - 1];
                 place--;
             }
@@ -1684,66 +1720,64 @@ public final class CakeCards {
         /** By Fitch's rule: a fork keeps what both branches may have, or else pays for either. */
         private void countChanges() {
             changes = 0;
-            for (int mark = 0; mark < MARKS && changes <= least; mark++) {
-                int base = mark * NODES;
-                for (int i = 0; i < forks; i++) {
-                    int fork = order[i];
-                    int one = node[base + left[fork]];
-                    int other = node[base + right[fork]];
-                    if ((one & other) != 0) {
-                        node[base + fork] = one & other;
+            for (int i = 0; i < varyings && changes <= least; i++) {
+                int base = varying[i] * NODES;
+                for (int k = 0; k < forks; k++) {
+                    int fork = order[k];
+                    int a = codes[base + one[fork]];
+                    int b = codes[base + other[fork]];
+                    if ((a & b) != 0) {
+                        codes[base + fork] = a & b;
                     } else {
-                        node[base + fork] = one | other;
-                        changes += (one | other) == 0 ? 0 : 1;
+                        codes[base + fork] = a | b;
+                        changes++;
                     }
                 }
             }
         }
 
         private void compare() {
-            if (changes > least) {
+            if (changes > least || forks < 1) {
                 return;
             }
-            if (changes < least) {
+            boolean isLess = changes < least;
+            if (isLess) {
                 least = changes;
                 ways = 0;
-                sure = -1L;
-                Arrays.fill(may, 0);
+                sureJoins = -1L;
             }
             ways++;
-            int top = order[forks - 1];
-            for (int mark = 0; mark < MARKS; mark++) {
-                may[mark] |= node[mark * NODES + top];
+            sureJoins &= joins();
+            for (int i = 0; i < varyings; i++) {
+                int mark = varying[i];
+                int top = codes[mark * NODES + order[forks - 1]];
+                may[mark] = isLess ? top : may[mark] | top;
             }
+        }
+
+        /** The sets of ends above the forks, but the top one: set k is bit k. */
+        private long joins() {
             long joins = 0;
-            for (int i = 0; i < forks - 1; i++) {
-                joins |= 1L << clade[order[i]];
+            for (int k = 0; k < forks - 1; k++) {
+                int fork = order[k];
+                clade[fork] = clade[one[fork]] | clade[other[fork]];
+                joins |= 1L << clade[fork];
             }
-            sure &= joins;
+            return joins;
         }
 
         /** The i-th join that is in each LEAST TREE, as a set of CARDS; how many for i = -1. */
         long sureJoin(int i) {
             int met = 0;
             for (int join = 0; join < (1 << ENDS); join++) {
-                if ((sure >> join & 1) != 0) {
+                if ((sureJoins >> join & 1) != 0) {
                     if (met == i) {
-                        return cardsOf(join);
+                        return grove.cardsOf(join);
                     }
                     met++;
                 }
             }
             return i == -1 ? met : NONE;
-        }
-
-        private int cardsOf(int join) {
-            int set = 0;
-            for (int end = 0; end < ends; end++) {
-                if ((join >> end & 1) != 0) {
-                    set |= 1 << cards[end];
-                }
-            }
-            return set;
         }
 
         /** The i-th value that the top fork may have; how many for i = -1. */
@@ -1752,7 +1786,7 @@ public final class CakeCards {
             for (int k = 0; k < ENDS && isMark(mark); k++) {
                 if ((may[mark] >> k & 1) != 0) {
                     if (met == i) {
-                        return values[mark * ENDS + k];
+                        return grove.valueAt(mark, k);
                     }
                     met++;
                 }
@@ -1763,7 +1797,11 @@ public final class CakeCards {
 
     /** ASKS of a CARD, by BODIES, and THE TRACE that they leave. */
     private static final class Asker {
+        private static final int SIZE = 0;
+        private static final int MARK = 1;
         private static final int MOST_TRACE = 16;
+        /** No ask goes half as deep: MARK of an ILL one opens five BODIES within one another. */
+        private static final int DEEPEST = 12;
 
         private final int[] trace = new int[MOST_TRACE];
         private int traced;
@@ -1774,8 +1812,7 @@ public final class CakeCards {
         private int stains;
         private int rise;
 
-        /** What the BODIES say of a CARD hangs on these alone, and none of them changes while it is asked. */
-        void turnTo(Household house, int card) {
+        int answer(Household house, int card, int what) {
             traced = 0;
             number = card;
             kind = house.kindOf(card);
@@ -1783,6 +1820,7 @@ public final class CakeCards {
             things = house.deck.thingsOf(card);
             stains = house.deck.stainsOf(card);
             rise = house.riseOf(card);
+            return run(bodyOf(what), 0);
         }
 
         int traceAt(int i) {
@@ -1796,87 +1834,53 @@ public final class CakeCards {
             }
         }
 
-        int askSize() {
+        /** The BODY that begins, by what the CARD is told as. */
+        private int bodyOf(int what) {
             switch (kind) {
                 case KIND_WHOLE:
+                    return what == SIZE ? 11 : 20;
                 case KIND_OWN:
-                    return sizeOfWhole();
+                    return what == SIZE ? 11 : 21;
                 case KIND_SUNK:
-                    return sizeOfSunk();
+                    return what == SIZE ? 12 : 24;
                 case KIND_MARRED:
-                    return sizeOfMarred();
+                    return what == SIZE ? 13 : 22;
                 case KIND_ILL:
-                    return sizeOfIll();
+                    return what == SIZE ? 14 : 23;
                 default:
-                    return sizeOfAny();
+                    return what == SIZE ? 10 : 20;
             }
         }
 
-        int askMark() {
-            switch (kind) {
-                case KIND_OWN:
-                    return markOfOwn();
-                case KIND_MARRED:
-                    return markOfMarred();
-                case KIND_ILL:
-                    return markOfIll();
-                case KIND_SUNK:
-                    return markOfSunk();
-                default:
-                    return markOfAny();
+        /** The parts of a sum are asked from left to right, as THE TRACE tells. */
+        private int run(int body, int depth) {
+            if (depth > DEEPEST) {
+                return 0;
             }
-        }
-
-        private int sizeOfAny() {
-            leave(10);
-            return things;
-        }
-
-        private int sizeOfWhole() {
-            leave(11);
-            int size = sizeOfAny();
-            return size + askMark();
-        }
-
-        private int sizeOfSunk() {
-            leave(12);
-            return 2 * sizeOfWhole();
-        }
-
-        private int sizeOfMarred() {
-            leave(13);
-            return sizeOfAny() - stains;
-        }
-
-        private int sizeOfIll() {
-            leave(14);
-            return sizeOfMarred() + 100;
-        }
-
-        private int markOfAny() {
-            leave(20);
-            return number;
-        }
-
-        private int markOfOwn() {
-            leave(21);
-            return markOfAny() + year;
-        }
-
-        private int markOfMarred() {
-            leave(22);
-            int mark = markOfAny();
-            return mark + askSize();
-        }
-
-        private int markOfIll() {
-            leave(23);
-            return -markOfMarred();
-        }
-
-        private int markOfSunk() {
-            leave(24);
-            return markOfAny() + rise;
+            leave(body);
+            int deeper = depth + 1;
+            switch (body) {
+                case 10:
+                    return things;
+                case 11:
+                    return run(10, deeper) + run(bodyOf(MARK), deeper);
+                case 12:
+                    return 2 * run(11, deeper);
+                case 13:
+                    return run(10, deeper) - stains;
+                case 14:
+                    return run(13, deeper) + 100;
+                case 20:
+                    return number;
+                case 21:
+                    return run(20, deeper) + year;
+                case 22:
+                    return run(20, deeper) + run(bodyOf(SIZE), deeper);
+                case 23:
+                    return -run(22, deeper);
+                default:
+                    return run(20, deeper) + rise;
+            }
         }
     }
 }
