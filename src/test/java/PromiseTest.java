@@ -214,6 +214,8 @@ public final class PromiseTest {
         dueFault("  ", 2, 1);
         dueFault("rises 1", 0, 1);
         dueFault("Rise", 0, 1);
+        dueFault("risez", 0, 1);
+        dueFault("arise", 0, 1);
         dueFault("rise 00001 ", 5, 1);
         dueFault("rise 1 ? ", 7, 1);
         dueFault("rise 1 1 1 1 1 1 1 1 0 0 0 0", 28, 1);
@@ -262,7 +264,9 @@ public final class PromiseTest {
         dueMarks(x, 1, 2970, 0, 0, 0, 0, 0, 0, 0, 0, NONE, 99);
         due("mother", x.of(1, 2), NONE);
         due("land", x.of(1, 0), 2);
-        for (int i = 2; i < 12; i++) {
+        due("land 3, another measure", card(x, "card3 2000;add 1 2 3;"), 2);
+        dueMarks(x, 2, 0, 2);
+        for (int i = 3; i < 12; i++) {
             due("card", card(x, "card 0 1900;"), i);
         }
         feed(x, "card 0 19");
@@ -631,6 +635,12 @@ public final class PromiseTest {
         told(y, 1900, NONE, 2, 1);
         due("0 or 1 by two sets: the least", y.book(1), 2);
         due("by 0", y.book(0), 7);
+        CakeCards z = withKitchen(PLAIN);
+        for (int i = 0; i < 12; i++) {
+            told(z, 1900, NONE, i);
+        }
+        due("all twelve", z.book(0), 4095);
+        due("any one", z.book(1), 1);
     }
 
     private static void images() {
