@@ -797,11 +797,11 @@ public final class CakeCards {
 
         /** The NUMBER that stands here, or NONE for a sign ?. */
         int passMark(int least, int most) {
-            if (failed || !isAtSign('?')) {
-                return passNumber(least, most);
+            int value = isAtSign('?') ? NONE : numberHere(least, most);
+            if (!failed) {
+                step();
             }
-            step();
-            return NONE;
+            return value;
         }
     }
 

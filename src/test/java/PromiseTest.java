@@ -1,73 +1,11 @@
 /** Each promise by hand: ordinary inputs, the edges that the document names, wrong inputs. */
-public final class PromiseTest {
-    private static final int NONE = CakeCards.NONE;
-    private static final long NOT = CakeCards.NOT;
-    private static final long BAD = NOT - 1;
-    private static final long STATE = NOT - 2;
-    private static final long FULL = NOT - 3;
-    private static final long NULL = NOT - 11;
-    private static final long PLACE = NOT - 12;
-    private static final long KIND = NOT - 13;
-    private static final long SIZE = NOT - 14;
-    private static final long STORE = NOT - 15;
-    private static final int MIN = Integer.MIN_VALUE;
-    private static final int MAX = Integer.MAX_VALUE;
-    /** Each THING lifts by 1, HEAT 0, LONG 0, BEAT 0, LEAST 0. */
-    private static final String PLAIN = "rise 1 1 1 1 1 1 1 1 0 0 0 0;";
-
-    private static int promise;
-    private static int wrong;
-
-    private static void due(String what, long got, long want) {
-        if (got != want) {
-            wrong++;
-            System.out.println("promise " + promise + ": " + what + " answered " + got + ", due is " + want);
-        }
-    }
-
-    private static void feed(CakeCards x, String text) {
-        for (int at = 0; at < text.length(); at += 8) {
-            int n = Math.min(8, text.length() - at);
-            long w = 0;
-            for (int i = 0; i < n; i++) {
-                w = w << 8 | text.charAt(at + i) & 255;
-            }
-            x.feed(w, n);
-        }
-    }
-
-    private static long kitchen(CakeCards x, String text) {
-        feed(x, text);
-        return x.kitchen();
-    }
-
-    private static long card(CakeCards x, String text) {
-        feed(x, text);
-        return x.card();
-    }
-
-    private static CakeCards withKitchen(String text) {
-        CakeCards x = new CakeCards();
-        kitchen(x, text);
-        return x;
-    }
-
-    private static long told(CakeCards x, int year, int mother, int... marks) {
-        x.row(7, 2, 11);
-        for (int i = 0; i < marks.length; i++) {
-            x.set(7, i, marks[i]);
-        }
-        return x.told(0, year, 7, 0, mother);
-    }
-
-    private static void dueMarks(CakeCards x, int card, int... marks) {
-        for (int i = 0; i < 11; i++) {
-            due("mark(" + card + ", " + i + ")", x.mark(card, i), i < marks.length ? marks[i] : 0);
-        }
+public final class PromiseTest extends Checks {
+    private static void promise(int number) {
+        says("## Promise " + number + ":");
     }
 
     private static void newObject() {
-        promise = 1;
+        promise(1);
         CakeCards x = new CakeCards();
         for (int i = 0; i < 6; i++) {
             due("count(" + i + ")", x.count(i), 0);
@@ -82,7 +20,7 @@ public final class PromiseTest {
 
     private static void rows() {
         CakeCards x = new CakeCards();
-        promise = 2;
+        promise(2);
         due("row", x.row(0, 0, 40), 40);
         due("empty row", x.row(7, 2, 0), 0);
         due("41", x.row(0, 0, 41), BAD);
@@ -100,7 +38,7 @@ public final class PromiseTest {
         x.copy(0, 3, 1, 0, 1);
         due("anew 0", x.drop(0), 40);
 
-        promise = 3;
+        promise(3);
         x.row(0, 0, 3);
         x.row(1, 1, 3);
         x.row(2, 2, 3);
@@ -120,7 +58,7 @@ public final class PromiseTest {
 
         copies();
 
-        promise = 5;
+        promise(5);
         due("drop", x.drop(2), 3);
         due("status", x.status(), 0);
         due("gone", x.drop(2), NULL);
@@ -129,7 +67,7 @@ public final class PromiseTest {
     }
 
     private static void copies() {
-        promise = 4;
+        promise(4);
         CakeCards x = withKitchen(PLAIN);
         x.row(0, 1, 12);
         for (int i = 0; i < 8; i++) {
@@ -159,7 +97,7 @@ public final class PromiseTest {
     }
 
     private static void feeding() {
-        promise = 6;
+        promise(6);
         CakeCards x = new CakeCards();
         due("n 0", x.feed(1, 0), BAD);
         due("n 9", x.feed(1, 9), BAD);
@@ -191,16 +129,8 @@ public final class PromiseTest {
         due("the KITCHEN stays", x.grains(0, 0, 1800), 1);
     }
 
-    private static String times(String text, int n) {
-        StringBuilder all = new StringBuilder();
-        for (int i = 0; i < n; i++) {
-            all.append(text);
-        }
-        return all.toString();
-    }
-
     private static void kitchens() {
-        promise = 7;
+        promise(7);
         CakeCards x = new CakeCards();
         due("blanks", kitchen(x, " \n measure0 1\n1900 2 ;packet 3 1800 1800;\n" + PLAIN + " \n"), 2);
         due("measures", x.count(1), 1);
@@ -251,7 +181,7 @@ public final class PromiseTest {
     }
 
     private static void cards() {
-        promise = 8;
+        promise(8);
         CakeCards x = new CakeCards();
         feed(x, "card 0 1900;");
         due("no kitchen", x.card(), STATE);
@@ -290,7 +220,7 @@ public final class PromiseTest {
         dueCardFault("card 0 1900;beat 0;", 17, 2);
         dueCardFault("card 0 1900;beat ?;beat 100;", 19, 4);
 
-        promise = 9;
+        promise(9);
         due("fault stays", card(x = withKitchen("rise 10"), ""), STATE);
         due("fault", x.fault(), 2);
         kitchen(x, PLAIN);
@@ -298,7 +228,7 @@ public final class PromiseTest {
     }
 
     private static void tellings() {
-        promise = 10;
+        promise(10);
         CakeCards x = new CakeCards();
         due("no kitchen", x.told(0, 1900, 0, 0, NONE), STATE);
         due("bad ahead", x.told(0, 1900, 8, 0, NONE), BAD);
@@ -348,7 +278,7 @@ public final class PromiseTest {
     }
 
     private static void copying() {
-        promise = 11;
+        promise(11);
         CakeCards x = withKitchen(PLAIN);
         told(x, 1900, NONE, 7, -1, 5000, 4999, 5001, 0, 0, 0, 8, 9, 3);
         due("as it is", x.copied(0, 1, 1900, 0, 0, 0), 1);
@@ -396,14 +326,14 @@ public final class PromiseTest {
         CakeCards x = withKitchen("measure 3 1 1850 7;" + PLAIN);
         told(x, 1900, NONE, 7, -1, -1);
         told(x, 1901, 0, 7, 2);
-        promise = 12;
+        promise(12);
         due("mark", x.mark(0, 0), 7);
         due("stained", x.mark(0, 1), NONE);
         due("mark 11", x.mark(0, 11), BAD);
         due("mark -1", x.mark(0, -1), BAD);
         due("card 2", x.mark(2, 0), BAD);
         due("card -1", x.mark(-1, 0), BAD);
-        promise = 13;
+        promise(13);
         due("year", x.of(0, 1), 1900);
         due("mother", x.of(0, 2), NONE);
         due("mother", x.of(1, 2), 0);
@@ -412,14 +342,14 @@ public final class PromiseTest {
         due("what 5", x.of(0, 5), BAD);
         due("what -1", x.of(0, -1), BAD);
         due("card", x.of(2, 0), BAD);
-        promise = 14;
+        promise(14);
         due("stain", x.stain(1, 1), 1);
         due("again", x.stain(1, 1), 0);
         due("it is", x.mark(1, 1), NONE);
         due("in all", x.count(4), 3);
         due("mark", x.stain(1, 11), BAD);
         due("card", x.stain(2, 1), BAD);
-        promise = 15;
+        promise(15);
         due("before", x.grains(3, 1, 1849), 1);
         due("from then on", x.grains(3, 1, 1850), 7);
         due("later", x.grains(3, 1, 2000), 7);
@@ -430,7 +360,7 @@ public final class PromiseTest {
     }
 
     private static void baking() {
-        promise = 16;
+        promise(16);
         CakeCards x = withKitchen("rise 1 2 3 0 0 0 0 9 5 40 10 50;");
         told(x, 1900, NONE, 10, 10, 10, 0, 0, 0, 0, 0, 5, 40, 50);
         told(x, 1900, NONE, 1, -1, 0, 0, 0, 0, 0, 0, 7, 37, -1);
@@ -438,14 +368,14 @@ public final class PromiseTest {
         due("itself", x.unlike(1, 1), 0);
         due("bad", x.unlike(0, 2), BAD);
         due("bad", x.unlike(-1, 0), BAD);
-        promise = 17;
+        promise(17);
         due("rise, BEAT at most", x.baked(0, 0), 70);
         due("it does not sink", x.baked(0, 1), 0);
         due("off", x.baked(1, 0), 1 - 20 - 3);
         due("it sinks", x.baked(1, 1), 1);
         due("what", x.baked(1, 2), BAD);
         due("card", x.baked(2, 0), BAD);
-        promise = 18;
+        promise(18);
         due("set", x.blame(0, 1, 0), 1 << 2);
         due("how many", x.blame(0, 1, 1), 1);
         due("sets", x.blame(0, 1, 2), 1);
@@ -466,32 +396,32 @@ public final class PromiseTest {
 
     private static void kin() {
         CakeCards x = withKitchen(PLAIN);
-        promise = 19;
+        promise(19);
         due("no cards", x.mothers(0), STATE);
         due("what ahead", x.mothers(2), BAD);
-        promise = 29;
+        promise(29);
         due("no cards", x.book(0), STATE);
         told(x, 1910, NONE, 1, 1, 1, 1);
-        promise = 19;
+        promise(19);
         due("one card", x.mothers(0), 0);
         due("one row", x.mothers(1), 1);
-        promise = 21;
+        promise(21);
         told(x, 1900, NONE, 1, 1);
         due("the one earlier", x.two(0, 0), NONE);
         told(x, 1900, NONE, 0, 0, 1, 1);
         told(x, 1910, NONE, 1, 1, -1, 1, 9);
         // By years: 1, 2 (1900), 0, 3 (1910).
-        promise = 19;
+        promise(19);
         due("4 of 2, 2 of 0 from 1 or 2, 1 of 3 from 0", x.mothers(0), 4 + 2 + 1 + 0);
         due("rows", x.mothers(1), 2);
         due("what", x.mothers(-1), BAD);
-        promise = 20;
+        promise(20);
         due("first", x.mother(1), NONE);
         due("of one year, by number", x.mother(2), 1);
         due("least of two", x.mother(0), 1);
         due("near", x.mother(3), 0);
         due("bad", x.mother(4), BAD);
-        promise = 21;
+        promise(21);
         due("the first one", x.two(1, 0), NONE);
         due("the second one", x.two(2, 1), NONE);
         due("1 has two, 2 the others", x.two(0, 0), 1);
@@ -510,7 +440,7 @@ public final class PromiseTest {
         told(x, 1900, NONE, 5, 2, 0, -1);
         told(x, 1900, NONE, 4, 1, -1, -1);
         told(x, 1900, NONE, 4, 1, -1, -1);
-        promise = 22;
+        promise(22);
         due("two", x.trees(3, 0), 1);
         due("one", x.trees(3, 1), 1);
         due("all", x.trees(3, 2), 1);
@@ -523,13 +453,13 @@ public final class PromiseTest {
         due("no such card", x.trees(17, 0), BAD);
         due("below", x.trees(MIN, 0), BAD);
         due("what", x.trees(3, 3), BAD);
-        promise = 23;
+        promise(23);
         due("none is in all of them", x.sure(15, -1), 0);
         due("not so many", x.sure(15, 0), NONE);
         due("not so many", x.sure(15, MAX), NONE);
         due("i", x.sure(15, -2), BAD);
         due("set", x.sure(1, -1), BAD);
-        promise = 24;
+        promise(24);
         due("may", x.first(15, 0, -1), 2);
         due("rising", x.first(15, 0, 0), 4);
         due("rising", x.first(15, 0, 1), 5);
@@ -543,7 +473,7 @@ public final class PromiseTest {
         due("i", x.first(15, 3, -2), BAD);
         due("mark", x.first(15, 11, 0), BAD);
         due("set", x.first(16, 0, 0), BAD);
-        promise = 22;
+        promise(22);
         x.stain(0, 0);
         x.stain(1, 0);
         due("anew after a stain", x.trees(15, 0), 2);
@@ -556,7 +486,7 @@ public final class PromiseTest {
     }
 
     private static void yearsAndThings() {
-        promise = 25;
+        promise(25);
         CakeCards x = withKitchen("packet 0 1850 1900;packet 0 1860 1890;packet 1 1890 1950;packet 2 1891 1892;" + PLAIN);
         told(x, 1900, NONE, 1);
         told(x, 1900, NONE, 1, 1, -1);
@@ -571,7 +501,7 @@ public final class PromiseTest {
         due("what", x.years(0, 2), BAD);
         due("card", x.years(4, 0), BAD);
 
-        promise = 26;
+        promise(26);
         x = withKitchen(PLAIN);
         told(x, 1900, NONE, 5, 5, -1, 0);
         told(x, 1900, 0, 0, 0, 0, 0);
@@ -585,7 +515,7 @@ public final class PromiseTest {
         due("two come from it", x.left(1, 0), 2);
         due("one has it again", x.left(1, 1), NONE);
         due("its daughter has it", x.left(2, 1), NONE);
-        promise = 27;
+        promise(27);
         due("81", x.chance(1, 0, 9), 81);
         due("4", x.chance(1, 0, 2), 4);
         due("1", x.chance(4, 0, 2), 1);
@@ -594,7 +524,7 @@ public final class PromiseTest {
         due("l", x.chance(1, 0, 10), BAD);
         due("thing", x.chance(1, 8, 2), BAD);
         due("card", x.chance(5, 0, 2), BAD);
-        promise = 26;
+        promise(26);
         x.stain(3, 0);
         due("one is STAINED", x.left(1, 0), NONE);
         due("thing", x.left(1, 8), BAD);
@@ -604,12 +534,12 @@ public final class PromiseTest {
         for (int i = 0; i < 11; i++) {
             told(y, 1900, i);
         }
-        promise = 27;
+        promise(27);
         due("9 by itself ten times", y.chance(1, 0, 9), 3486784401L);
     }
 
     private static void mending() {
-        promise = 28;
+        promise(28);
         CakeCards x = withKitchen(PLAIN);
         told(x, 1900, NONE, -1, -1, -1, -1, -1, -1, -1, 7);
         told(x, 1900, NONE, 1, 2, 9, 1, -1, -1, 0, 1);
@@ -622,7 +552,7 @@ public final class PromiseTest {
         dueMarks(x, 0, 1, 2, 2, NONE, NONE, NONE, 0, 7);
         due("none more", x.mend(0, 3, 2, 1), 0);
 
-        promise = 29;
+        promise(29);
         due("all", x.book(0), 15);
         due("11", x.book(11), 1);
         due("2: 0 is near to 1, 2, 3", x.book(2), 1);
@@ -644,7 +574,7 @@ public final class PromiseTest {
     }
 
     private static void images() {
-        promise = 30;
+        promise(30);
         CakeCards x = new CakeCards();
         due("no kitchen", x.image(0), STATE);
         due("k ahead", x.image(2), BAD);
@@ -653,7 +583,7 @@ public final class PromiseTest {
         told(x, 1901, 0, 2);
         due("image", x.image(1), 1);
         due("k", x.image(-1), BAD);
-        promise = 31;
+        promise(31);
         due("none was kept", x.restore(0), STATE);
         due("k", x.restore(2), BAD);
         x.stain(0, 0);
@@ -668,23 +598,12 @@ public final class PromiseTest {
         x.stain(0, 0);
         due("again", x.restore(1), 1);
         due("an IMAGE is not what it was kept of", x.mark(0, 0), 1);
-        promise = 30;
+        promise(30);
         x.stain(0, 0);
         due("in place", x.image(1), 1);
         x.restore(1);
         due("the newer", x.mark(0, 0), NONE);
         due("rows stay", x.count(0), 1);
-    }
-
-    private static void dueTrace(CakeCards x, int... bodies) {
-        int was = promise;
-        promise = 35;
-        for (int i = 0; i < 16; i++) {
-            due("trace(" + i + ")", x.trace(i), i < bodies.length ? bodies[i] : NONE);
-        }
-        due("trace(-1)", x.trace(-1), NONE);
-        due("trace(far)", x.trace(MAX), NONE);
-        promise = was;
     }
 
     private static CakeCards ofAllKinds() {
@@ -703,9 +622,9 @@ public final class PromiseTest {
         int[] kinds = {4, 1, 3, 2, 5, 2};
         String[] also = {"014", "01", "013", "02", "025", "02"};
         for (int c = 0; c < 6; c++) {
-            promise = 32;
+            promise(32);
             due("kind(" + c + ")", x.kind(c), kinds[c]);
-            promise = 33;
+            promise(33);
             for (int k = 0; k < 6; k++) {
                 boolean is = also[c].indexOf('0' + k) >= 0;
                 due("as(" + c + ", " + k + ")", x.as(c, k), is ? c : KIND);
@@ -716,11 +635,11 @@ public final class PromiseTest {
         due("kind -1", x.as(0, -1), BAD);
         due("card", x.as(6, 0), BAD);
         due("status stays", x.status(), 3);
-        promise = 32;
+        promise(32);
         due("card", x.kind(6), BAD);
         due("card", x.kind(-1), BAD);
 
-        promise = 34;
+        promise(34);
         due("SIZE of OWN", x.ask(0, 0), 2 + 0 + 1900);
         dueTrace(x, 11, 10, 21, 20);
         due("MARK of OWN", x.ask(0, 1), 1900);
@@ -748,7 +667,7 @@ public final class PromiseTest {
     }
 
     private static void counts() {
-        promise = 36;
+        promise(36);
         CakeCards x = withKitchen("measure 0 0 1800 9;measure 0 0 1800 8;packet 0 1800 1800;" + PLAIN);
         told(x, 1900, NONE, -1, -1);
         told(x, 1900, NONE, -1);
@@ -760,7 +679,7 @@ public final class PromiseTest {
         }
         due("what", x.count(6), BAD);
         due("what", x.count(-1), BAD);
-        promise = 37;
+        promise(37);
         due("null", x.drop(5), NULL);
         x.unlike(0, 1);
         x.feed(0, 9);
@@ -789,9 +708,6 @@ public final class PromiseTest {
         images();
         kinds();
         counts();
-        System.out.println(wrong == 0 ? "all promises are kept" : wrong + " answers are not as due");
-        if (wrong != 0) {
-            System.exit(1);
-        }
+        end();
     }
 }
